@@ -7,7 +7,7 @@ public final class SnowNames {
 
     private static final int MAX_TAPE = 400;
     private static final int FEED_BYTES = 20;
-    private static final int MAX_ROWS_TOLD = 40;
+    private static final int MAX_ROW_BYTES = 40;
     private static final int MAX_TEXTS = 12;
     private static final int MAX_FIELDS = 6;
     private static final int MAX_PEOPLE = 6;
@@ -1263,22 +1263,17 @@ public final class SnowNames {
                 }
             } else if (text[begin] >= '0' && text[begin] <= '9') {
                 kind = NUMBER;
-                stepOverDigits();
+                int value = 0;
+                while (after < length && text[after] >= '0' && text[after] <= '9') {
+                    // Of more digits there is no value, however they go on.
+                    value = after - begin < MAX_DIGITS && value != NONE ? 10 * value + text[after] - '0' : NONE;
+                    after++;
+                }
+                number = value;
             } else {
                 kind = SIGN;
                 after++;
             }
-        }
-
-        private void stepOverDigits() {
-            int value = 0;
-            while (after < length && text[after] >= '0' && text[after] <= '9') {
-                if (after - begin < MAX_DIGITS) {
-                    value = 10 * value + text[after] - '0';
-                }
-                after++;
-            }
-            number = after - begin > MAX_DIGITS ? NONE : value;
         }
 
         boolean isOver() {
@@ -1594,20 +1589,8 @@ public final class SnowNames {
         }
 
         private boolean readAtom(int within) {
-            boolean isNot = words.isWord("not");
-            if (isNot || words.isSign('(')) {
-                if (within >= MAX_WITHIN) {
-                    return words.refuse();
-                }
-                words.step();
-                if (!isNot) {
-                    return readEither(within + 1) && words.takeSign(')');
-                }
-                if (!readAtom(within + 1)) {
-                    return false;
-                }
-                put(Law.NOT);
-                return true;
+            if (words.isWord("not") || words.isSign('(')) {
+                return within < MAX_WITHIN ? readWithin(within + 1) : words.refuse();
             }
             int fact = words.isWord("written") ? Law.WRITTEN
                     : words.isWord("whole") ? Law.WHOLE : words.isWord("owes") ? Law.OWES : NONE;
@@ -1616,10 +1599,6 @@ public final class SnowNames {
                 put(Law.A_FACT + fact);
                 return true;
             }
-            return readComparison();
-        }
-
-        private boolean readComparison() {
             if (!readSum()) {
                 return false;
             }
@@ -1635,28 +1614,37 @@ public final class SnowNames {
             return true;
         }
 
-        private boolean readSum() {
-            if (!readPart()) {
+        /** A not or a ( and what it holds. */
+        private boolean readWithin(int within) {
+            if (words.isSign('(')) {
+                words.step();
+                return readEither(within) && words.takeSign(')');
+            }
+            words.step();
+            if (!readAtom(within)) {
                 return false;
             }
-            for (int more = 0; more < MAX_TAPE && words.isSign('+'); more++) {
-                words.step();
-                if (!readPart()) {
-                    return false;
-                }
-                put(Law.PLUS);
-            }
+            put(Law.NOT);
             return true;
         }
 
-        private boolean readPart() {
-            int code = words.isNumber(0, 999) ? words.number : partCode();
-            if (code == NONE) {
-                return words.refuse();
+        private boolean readSum() {
+            for (int parts = 0; parts < MAX_TAPE; parts++) {
+                int code = words.isNumber(0, 999) ? words.number : partCode();
+                if (code == NONE) {
+                    return words.refuse();
+                }
+                words.step();
+                put(code);
+                if (parts > 0) {
+                    put(Law.PLUS);
+                }
+                if (!words.isSign('+')) {
+                    return true;
+                }
+                words.step();
             }
-            words.step();
-            put(code);
-            return true;
+            return words.refuse();
         }
 
         private int partCode() {
@@ -1951,7 +1939,7 @@ public final class SnowNames {
 
         /** Whether a tape tells places and letters, two bytes a row. */
         static boolean areRows(int[] tape, int length) {
-            if (length > MAX_ROWS_TOLD || length > tape.length || length % 2 != 0) {
+            if (length > MAX_ROW_BYTES || length > tape.length || length % 2 != 0) {
                 return false;
             }
             for (int i = 0; i + 1 < length; i += 2) {

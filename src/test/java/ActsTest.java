@@ -10,6 +10,7 @@ public final class ActsTest {
         strike();
         tread();
         lendAndPay();
+        payOfMany();
         slopeAndSnow();
         Due.end("ActsTest");
     }
@@ -139,6 +140,9 @@ public final class ActsTest {
         Due.is("behind the last one is 0", z.person(0, 1), 0);
         Due.is("all at once", z.person(1, 1), 1);
         Due.is("no rows", z.count(11), 0);
+        SnowNames u = Due.of("wind 100;fall 0;field slope 0 room 9 snow 9;field slope 0 room 9 snow 2;name a on 0");
+        u.days(1);
+        Due.is("1 of snow is enough", u.person(0, 1), 1);
         SnowNames w = Due.of("wind 100;fall 100;field slope 0 room 9 snow 1;name a on 0");
         w.days(1);
         Due.is("one field is its own next", w.person(0, 1), 0);
@@ -198,6 +202,10 @@ public final class ActsTest {
         Due.is("9 at most", x.tread(0, 9), 9);
         Due.is("still", x.tread(0, 1), 9);
         Due.is("no row", x.count(11), 0);
+        x.write(1, 0);
+        Due.is("only one's own", x.tread(1, 2), 6);
+        Due.is("its depth", x.letter(1, 0, 2), 6);
+        x.strike(1);
         Due.noIndex("nobody", () -> x.tread(2, 0));
         Due.noNumber("0", () -> x.tread(1, 0));
         Due.noNumber("10", () -> x.tread(0, 10));
@@ -233,6 +241,16 @@ public final class ActsTest {
         Due.is("altered", x.log(0, 1), 1);
         Due.cannot("not whole", () -> x.pay(0));
         Due.is("acts", x.count(12), 12);
+    }
+
+    private static void payOfMany() {
+        SnowNames x = Due.of("field slope 0 room 20 snow 9;name a on 0;name b on 0;name c on 0;name d on 0;"
+                + "debt 0 1 1;debt 1 2 2;debt 2 3 3;debt 3 0 4");
+        x.pay(1);
+        int[] due = {0, 1, 1, 2, 3, 3, 3, 0, 4};
+        for (int i = 0; i < 9; i++) {
+            Due.is("debt(" + i / 3 + ", " + i % 3 + ")", x.debt(i / 3, i % 3), due[i]);
+        }
     }
 
     private static void slopeAndSnow() {

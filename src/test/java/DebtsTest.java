@@ -140,6 +140,7 @@ public final class DebtsTest {
         Due.is("widest", x.most(0), 1);
         Due.is("snowiest", x.most(1), 2);
         Due.is("longest, the least", x.most(2), 1);
+        Due.is("the first is the longest", Due.of("name bb;name a").most(2), 0);
         x.write(1, 1);
         Due.is("by room left, the least", x.most(0), 0);
         x.snow(0, 1);

@@ -79,10 +79,37 @@ public final class KeptTest {
         Due.noNumber("-1", () -> x.span(-1, true));
         Due.noNumber("61", () -> x.span(61, false));
         Due.is("nobody", new SnowNames().span(60, false), 0);
+        spanBySeeds();
         // Written ones that are not whole do not count.
         SnowNames y = Due.of("fall 0;hares 100;field slope 0 room 9 snow 99;name a on 0");
         Due.is("altered, not whole", y.span(1, true), 0);
         Due.is("altered eight times, whole again", y.span(8, false), 1);
+    }
+
+    /** Each fall parts the seeds otherwise, so that each of them is the least or the greatest once. */
+    private static void spanBySeeds() {
+        SnowNames x = Due.of("hares 20;field slope 0 room 9 snow 9;field slope 9 room 9 snow 9;name a on 0;name b on 1;name cd on 0");
+        x.image();
+        for (int fall = 0; fall <= 100; fall++) {
+            x.back();
+            Due.province(x, "fall " + fall);
+            SnowNames y = Due.of("hares 20;field slope 0 room 9 snow 9;field slope 9 room 9 snow 9;name a on 0;name b on 1;"
+                    + "name cd on 0;fall " + fall);
+            for (int n = 1; n < 4; n++) {
+                int least = 9;
+                int greatest = -1;
+                for (int seed = 1; seed <= 6; seed++) {
+                    y.seed(seed);
+                    y.days(n);
+                    int whole = Integer.bitCount(y.written(true));
+                    y.undo();
+                    least = Math.min(least, whole);
+                    greatest = Math.max(greatest, whole);
+                }
+                Due.is("least of " + n + " days by " + fall, x.span(n, false), least);
+                Due.is("greatest of " + n + " days by " + fall, x.span(n, true), greatest);
+            }
+        }
     }
 
     private static void log() {
@@ -113,6 +140,26 @@ public final class KeptTest {
         Due.is("the first one went", x.log(59, 2), 1);
         Due.is("the latest", x.log(0, 3), 1);
         Due.is("none 60 ago", x.log(60, 0), -1);
+        SnowNames y = Due.of("field slope 0 room 9 snow 9;field slope 0 room 9 snow 9;name a;name b");
+        for (int i = 0; i < 100; i++) {
+            y.write(i / 2 % 2, i / 3 % 2);
+        }
+        for (int ago = 0; ago < 60; ago++) {
+            int i = 99 - ago;
+            Due.is("who " + ago + " ago", y.log(ago, 1), i / 2 % 2);
+            Due.is("where " + ago + " ago", y.log(ago, 3), i / 3 % 2);
+        }
+        Due.is("rows of one", y.led(1, false), 30);
+        String before = all(y);
+        y.image();
+        y.strike(0);
+        y.strike(1);
+        y.undo();
+        y.undo();
+        Due.is("a full log undone", all(y), before);
+        y.strike(1);
+        y.back();
+        Due.is("a full log gone back to", all(y), before);
     }
 
     private static void led() {

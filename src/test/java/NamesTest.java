@@ -41,6 +41,10 @@ public final class NamesTest {
         tillIs(y, 10, 2, -1, 0, 0);
         SnowNames z = Due.of("name a;field slope 0 room 4");
         tillIs(z, 10, 0, -1);
+        z.snow(0, 1);
+        tillIs(z, 10, 0, 0);
+        z.snow(0, 1);
+        tillIs(z, 1, 1, 0);
     }
 
     private static void tillByLaw() {
@@ -115,6 +119,9 @@ public final class NamesTest {
         SnowNames w = Due.of("name ab;name cb;name cd;name ad;name cbe");
         Due.is("two parts of 2 and 3: the least place", lookOf(w, ""), 0);
         Due.is("one", lookOf(Due.of("name a"), ""), -1);
+        Due.is("six alike", lookOf(Due.of("name a;name a;name a;name a;name a;name a"), ""), 0);
+        // abc and abd fit; the others, all unlike at place 0, do not.
+        Due.is("of those alone that fit", lookOf(Due.of("name abc;name abd;name ha;name ga;name fa"), "\0\0\1\1"), 2);
     }
 
     private static void places() {
@@ -161,6 +168,16 @@ public final class NamesTest {
         Due.is("the least of two", Due.of("name a;name b").safe(), 1);
         Due.is("both ends", Due.of("name b;name a;name c").safe(), 6);
         Due.is("ring", Due.of("name h;name a;name b;name c").safe(), 5);
+        SnowNames y = Due.of("day 1");
+        y.image();
+        Due.province(y, "name a;name b;name b");
+        Due.is("two like ones", y.safe(), 6);
+        Due.is("pairs", y.pairs(-1), 1);
+        y.back();
+        Due.province(y, "name a;name c");
+        Due.is("nothing of those before", y.safe(), 3);
+        Due.is("no pairs any more", y.pairs(-1), 0);
+        Due.is("with nobody", y.pairs(1), -1);
         Due.is("two unlike places are not mixed", Due.of("name aa;name bb").safe(), 3);
     }
 
@@ -189,6 +206,7 @@ public final class NamesTest {
         Due.is("together(0, 1, MAX)", x.together(0, 1, Integer.MAX_VALUE), -1);
         Due.noNumber("both are one", () -> x.together(5, 5, -1));
         Due.noIndex("together(6, 6, 0)", () -> x.together(6, 6, 0));
+        Due.noIndex("together(6, 0, 0)", () -> x.together(6, 0, 0));
         Due.noIndex("together(0, -1, 0)", () -> x.together(0, -1, 0));
         SnowNames y = Due.of("name aba;name bab;name aaaaaa;name aa;name abcdef;name ghghgh");
         rowIs(y, 0, 1, "abab");
@@ -226,6 +244,7 @@ public final class NamesTest {
     private static void twinsAndHaving() {
         SnowNames x = Due.of("name ab;name ba;name ab;name abh;name ab;name ba");
         Due.is("twins", x.twins(), 4);
+        Due.is("side by side", Due.of("name ab;name ab;name c").twins(), 1);
         Due.is("no twins", new SnowNames().twins(), 0);
         Due.is("a begin is no twin", Due.of("name ab;name a;name aba").twins(), 0);
         Due.is("having a", x.having(0), 63);

@@ -107,7 +107,10 @@ public final class TextsTest {
             {"field", 5}, {"field room 1", 6}, {"field slope", 11}, {"field slope 1 snow 1", 14},
             {"field slope 1 room 1 snow", 25}, {"field slope 1 room 1 snow 1 2", 28}, {"field slope 1 room 1 room 2", 21},
             {"fieldslope 1 room 1", 0}, {"name 5", 5}, {"name", 4}, {"name a b", 7}, {"name aon 0", 5}, {"name a on", 9},
-            {"name a on b", 10}, {"name aB", 6}, {"name abcdefa", 5}, {"name i", 5}, {"name a on 0;", 10},
+            {"name a on b", 10}, {"name aB", 6}, {"name az", 5}, {"name a;debt 0", 13}, {"field slope 1 room", 18},
+            {SIX_FIELDS + ";name a on 6", SIX_FIELDS.length() + 11}, {SIX_FIELDS + ";name a on 7", SIX_FIELDS.length() + 11},
+            {"field slope 1 room 21", 19}, {"field slope 1 room 0", 19}, {"field slope 10 room 1", 12},
+            {"field slope 1 room 1 snow 100", 26}, {"name abcdefa", 5}, {"name i", 5}, {"name a on 0;", 10},
             {"field slope 0 room 2 snow 1;name abc on 0", 40}, {"field slope 0 room 5 snow 1;name abc on 0;name abc on 0", 54},
             {"field slope 0 room 5 snow 0;name abc on 0", 40}, {"field slope 0 room 5 snow 1;name abc on 1", 40},
             {"debt", 4}, {"debt 0", 5}, {"name a;debt 1 0 1", 12}, {"name a;debt 0 1 1", 14}, {"name a;debt 0 0 1", 14},
@@ -174,6 +177,11 @@ public final class TextsTest {
             }
             Due.is("holds of " + one[0], bits, one[1]);
         }
+        for (int i = 0; i < 100; i++) {
+            Due.law(x, "deep 1 if person+field+slope+snow+letters+debts+day>900;melt 0;deep 2 if owes");
+        }
+        Due.is("the hundredth law is read as the first", x.deep(0, 0), 6);
+        Due.is("melt 0", x.melts(0, 0), 2);
         Due.is("no line", Due.law(x, "  "), 0);
         Due.is("count(4)", x.count(4), 0);
         Due.noIndex("melts of no person", () -> x.melts(2, 0));
@@ -190,7 +198,7 @@ public final class TextsTest {
             {"melt if owes", 5}, {"melt 1 if", 9}, {"melt 1 if ", 10}, {"melt 1 if if", 10}, {"melt 1 if not", 13},
             {"melt 1 if owes and", 18}, {"melt 1 if owes or or", 18}, {"melt 1 if owes owes", 15}, {"melt 1 if owes)", 14},
             {"melt 1 if (owes", 15}, {"melt 1 if (owes;", 15}, {"melt 1 if ()", 11}, {"melt 1 if owes>1", 14},
-            {"melt 1 if snow", 14}, {"melt 1 if snow+", 15}, {"melt 1 if snow+<2", 15}, {"melt 1 if snow 1", 15},
+            {"melt 1 if snow", 14}, {"melt 1 if snow+", 15}, {"melt 1 if snow<", 15}, {"melt 1 if owes or", 17}, {"melt 1 if snow+<2", 15}, {"melt 1 if snow 1", 15},
             {"melt 1 if snow<1<2", 16}, {"melt 1 if snow=1", 14}, {"melt 1 if 1000>1", 10}, {"melt 1 if 1>1000", 12},
             {"melt 1 if snows>1", 10}, {"melt 1 if (snow)>1", 15}, {"melt 1 if 1>owes", 12}, {"melt 1 if 1>not", 12},
             {"melt 1 if (((((((owes)))))))", 16}, {"melt 1 if not(not(not(not owes)))", 22},

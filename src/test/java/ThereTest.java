@@ -72,6 +72,12 @@ public final class ThereTest {
         SnowNames z = Due.of("name a");
         Due.is("part of nothing", z.person(0, 8), 0);
         Due.is("owes nothing", z.person(0, 7), 0);
+        Due.is("all that is owed", Due.of("name a;name b;debt 1 0 1").person(1, 8), 100);
+        // ab on the field is read as ac on day 1: no begin of it, nothing longer, and none of another first letter.
+        SnowNames w = Due.of("field slope 0 room 20 snow 50;hares 59;name ab on 0;name a;name acc;name bc");
+        w.days(1);
+        Due.is("altered", w.letter(0, 1, 3), 2);
+        Due.is("is nobody", w.person(0, 4), -1);
     }
 
     private static void lasting() {
@@ -93,6 +99,10 @@ public final class ThereTest {
         Due.is("one day", x.person(1, 5), 1);
         SnowNames y = Due.of("field slope 0 room 9;name a");
         Due.is("no snow, no longest", y.person(0, 6), -1);
+        y.snow(0, 1);
+        Due.is("1 of snow is enough", y.person(0, 6), 0);
+        Due.is("never is longer than 60 days",
+                Due.of("field slope 0 room 9 snow 60;field slope 0 room 9 snow 61;name a").person(0, 6), 1);
         // The law is asked anew each day: by the day, and by what is whole.
         SnowNames z = Due.of("field slope 0 room 9 snow 99;name ab on 0;day 95");
         Due.law(z, "melt 1 if day>97 and whole");
@@ -152,6 +162,8 @@ public final class ThereTest {
         Due.is("melts", x.melts(0, 0), 5);
         Due.is("melts of another field", x.melts(0, 1), 1);
         Due.is("melts of one who owes", x.melts(1, 1), 10);
+        x.lend(0, 1, 1);
+        Due.is("1 is something", x.melts(0, 1), 11);
         Due.is("deep", x.deep(0, 0), 4);
         Due.is("deep", x.deep(1, 0), 5);
         Due.is("deep", x.deep(1, 1), 8);
