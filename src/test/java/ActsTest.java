@@ -32,20 +32,12 @@ public final class ActsTest {
         y.seed(1);
         Due.province(y, "fall 39");
         Due.is("38 is below 39", y.days(1), 1);
-        Due.is("three draws a day", y.seed(1), seedAfter(3));
+        Due.is("three draws a day", y.seed(1), Seen.seedAfter(1, 3));
         Due.is("day", y.count(9), 1001);
         for (int i = 0; i < 151; i++) {
             y.days(60);
         }
         Due.is("9999 at most", y.count(9), 9999);
-    }
-
-    private static int seedAfter(int draws) {
-        int seed = 1;
-        for (int i = 0; i < draws; i++) {
-            seed = 1103515245 * seed + 12345;
-        }
-        return seed;
     }
 
     private static void thaws() {
@@ -108,13 +100,13 @@ public final class ActsTest {
         Due.is("who", y.log(0, 1), 1);
         Due.is("where it was", y.log(0, 3), 0);
         Due.is("51 is not below 51", y.person(1, 1), 0);
-        Due.is("five draws", y.seed(1), seedAfter(5));
+        Due.is("five draws", y.seed(1), Seen.seedAfter(1, 5));
         SnowNames z = Due.of("hares 100;field slope 0 room 20 snow 99;name a");
         z.days(1);
-        Due.is("with nobody there, three draws", z.seed(1), seedAfter(3));
+        Due.is("with nobody there, three draws", z.seed(1), Seen.seedAfter(1, 3));
         SnowNames w = Due.of("hares 100;fall 0;field slope 9 room 20 snow 9;name a on 0");
         w.days(1);
-        Due.is("gone ahead of the hare: three draws", w.seed(1), seedAfter(3));
+        Due.is("gone ahead of the hare: three draws", w.seed(1), Seen.seedAfter(1, 3));
         Due.is("one row", w.count(11), 1);
     }
 

@@ -6,6 +6,7 @@ final class Due {
 
     private static int wrong = 0;
     private static int asked = 0;
+    private static String heading = "";
 
     private Due() { }
 
@@ -13,8 +14,20 @@ final class Due {
         asked++;
         if (!String.valueOf(got).equals(String.valueOf(want))) {
             wrong++;
-            System.out.println(call + " answered " + got + ", due is " + want);
+            System.out.println(heading + call + " answered " + got + ", due is " + want);
         }
+    }
+
+    /** A test of one sentence of the document, which must stand there word for word. */
+    static void sentence(String doc, String sentence, Runnable test) {
+        heading = "\"" + sentence + "\": ";
+        is("this sentence in the document", doc.contains(sentence), true);
+        try {
+            test.run();
+        } catch (RuntimeException e) {
+            is("the test", e, "no exception");
+        }
+        heading = "";
     }
 
     static void fails(String call, Class<?> due, Call made) {

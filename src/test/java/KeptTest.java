@@ -150,16 +150,16 @@ public final class KeptTest {
             Due.is("where " + ago + " ago", y.log(ago, 3), i / 3 % 2);
         }
         Due.is("rows of one", y.led(1, false), 30);
-        String before = all(y);
+        String before = Seen.all(y);
         y.image();
         y.strike(0);
         y.strike(1);
         y.undo();
         y.undo();
-        Due.is("a full log undone", all(y), before);
+        Due.is("a full log undone", Seen.all(y), before);
         y.strike(1);
         y.back();
-        Due.is("a full log gone back to", all(y), before);
+        Due.is("a full log gone back to", Seen.all(y), before);
     }
 
     private static void led() {
@@ -198,22 +198,22 @@ public final class KeptTest {
         SnowNames x = Due.of("field slope 3 room 9 snow 50;field slope 0 room 9 snow 9;hares 100;wind 60;fall 30;"
                 + "name ab on 0;name c on 1;debt 0 1 5;day 7");
         Due.is("none", x.undo(), false);
-        String before = all(x);
+        String before = Seen.all(x);
         x.days(5);
         Due.is("days of one call are one", x.count(12), 1);
         Due.is("undone", x.undo(), true);
-        Due.is("days", all(x), before);
+        Due.is("days", Seen.all(x), before);
         Due.is("none", x.undo(), false);
         String[] states = new String[12];
         for (int i = 0; i < 12; i++) {
-            states[i] = all(x);
+            states[i] = Seen.all(x);
             act(x, i);
             Due.is("acts " + i, x.count(12), i + 1);
-            Due.is("it did something " + i, all(x).equals(states[i]), false);
+            Due.is("it did something " + i, Seen.all(x).equals(states[i]), false);
         }
         for (int i = 11; i >= 0; i--) {
             Due.is("undo " + i, x.undo(), true);
-            Due.is("as ahead of " + i, all(x), states[i]);
+            Due.is("as ahead of " + i, Seen.all(x), states[i]);
             Due.is("acts", x.count(12), i);
         }
         Due.is("none", x.undo(), false);
@@ -231,36 +231,6 @@ public final class KeptTest {
             case 7 -> x.snow(1, 3);
             default -> x.days(2);
         }
-    }
-
-    /** All that can be seen of a province, but for the acts that are remembered. */
-    private static String all(SnowNames x) {
-        StringBuilder b = new StringBuilder();
-        for (int what = 0; what < 12; what++) {
-            b.append(x.count(what)).append(' ');
-        }
-        for (int f = 0; f < x.count(0); f++) {
-            for (int what = 0; what < 5; what++) {
-                b.append(x.field(f, what)).append(' ');
-            }
-        }
-        for (int p = 0; p < x.count(1); p++) {
-            for (int what = 0; what < 9; what++) {
-                b.append(x.person(p, what)).append(' ');
-            }
-            for (int i = 0; i < 24; i++) {
-                b.append(x.letter(p, i / 4, i % 4)).append(' ');
-            }
-        }
-        for (int i = 0; i < 3 * x.count(2); i++) {
-            b.append(x.debt(i / 3, i % 3)).append(' ');
-        }
-        for (int i = 0; i < 4 * x.count(11); i++) {
-            b.append(x.log(i / 4, i % 4)).append(' ');
-        }
-        int seed = x.seed(0);
-        x.seed(seed);
-        return b.append(seed).toString();
     }
 
     private static void undoRemembers() {
@@ -318,7 +288,7 @@ public final class KeptTest {
         Due.law(x, "deep 1");
         x.write(0, 0);
         x.seed(6);
-        String before = all(x);
+        String before = Seen.all(x);
         x.image();
         x.write(0, 0);
         x.seed(7);
@@ -328,14 +298,14 @@ public final class KeptTest {
         Due.noNumber("a wrong text", () -> x.law());
         x.feed(1, 2, 3, 4, 5);
         Due.is("back", x.back(), true);
-        Due.is("all of it", all(x), before);
+        Due.is("all of it", Seen.all(x), before);
         Due.is("the law", x.deep(0, 0), 5);
         Due.is("its lines", x.count(4), 1);
         Due.is("the tape stays", x.end(20), true);
         Due.is("fault() stays", x.fault(), 0);
         x.snow(0, 9);
         Due.is("back once more", x.back(), true);
-        Due.is("all of it", all(x), before);
+        Due.is("all of it", Seen.all(x), before);
         x.snow(0, 9);
         x.image();
         x.snow(0, 9);
