@@ -350,6 +350,15 @@ public final class EdgesOfActsTest {
             Due.is("each", x.letter(0, 0, 2) + " " + x.letter(0, 1, 2), "9 9");
             Due.is("9 at once", x.tread(1, 9), 9);
             Due.is("its depth", x.letter(1, 0, 2), 9);
+            SnowNames y = Due.of(FLAT + FLAT + "name abcdef on 0;".repeat(3) + "name abcdef on 1;".repeat(3) + "day 1");
+            for (int p = 5; p >= 0; p--) {
+                Due.is("person " + p, y.tread(p, p == 0 ? 9 : p), p == 0 ? 9 : 4 + p);
+            }
+            for (int p = 0; p < 6; p++) {
+                for (int k = 0; k < 6; k++) {
+                    Due.is("letter " + k + " of " + p, y.letter(p, k, 2), p == 0 ? 9 : 4 + p);
+                }
+            }
         });
         edge("IllegalArgumentException: n is none (1 to 9); IllegalStateException: it is ON none.", () -> {
             SnowNames x = Due.of(FLAT + "name a on 0;name b");

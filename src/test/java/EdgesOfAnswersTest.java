@@ -779,6 +779,17 @@ public final class EdgesOfAnswersTest {
             Due.is("the least and the greatest", least + " " + greatest, fewest + " " + most);
             Due.is("nobody", new SnowNames().span(60, false) + " " + new SnowNames().span(60, true), "0 0");
         });
+        edge("so from SEED 1, 2, .. 6", () -> {
+            // Of each row one seed alone makes the least or the greatest: 1, 2, .. 6; of the last two 0 and 7 would.
+            int[][] due = {{2, 20, 40, 0, 2}, {1, 0, 10, 1, 2}, {1, 10, 0, 0, 1}, {1, 20, 20, 0, 2}, {1, 0, 50, 1, 2},
+                {3, 40, 100, 0, 2}, {1, 0, 5, 1, 1}, {1, 0, 60, 2, 2}};
+            for (int[] one : due) {
+                SnowNames x = Due.of("hares " + one[1] + ";fall " + one[2] + ";field slope 9 room 9 snow 9;"
+                        + "field slope 0 room 9 snow 9;name a on 0;name b on 1");
+                Due.is("the least of hares " + one[1] + ", fall " + one[2], x.span(one[0], false), one[3]);
+                Due.is("the greatest of hares " + one[1] + ", fall " + one[2], x.span(one[0], true), one[4]);
+            }
+        });
         edge("SPAN: the least (most false), or the greatest. IllegalArgumentException: N is none (0 to 60).", () -> {
             SnowNames x = Due.of(FLAT + "name a on 0");
             for (int n : new int[] {-1, 61, LEAST, GREATEST}) {

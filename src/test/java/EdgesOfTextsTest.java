@@ -117,6 +117,44 @@ public final class EdgesOfTextsTest {
             Due.is("all of it is there", x.province(), 1);
             Due.is("flakes", x.count(5), 7);
         });
+        edge("The TAPE has its first n bytes alone", () -> {
+            SnowNames x = new SnowNames();
+            Due.tape(x, "fall 10;name abc");
+            x.end(14);
+            Due.is("a word cut", x.province(), 1);
+            Due.is("one letter", x.person(0, 0), 1);
+            Due.tape(x, "fall 100");
+            x.end(6);
+            Due.is("a number cut", x.province(), 2);
+            Due.is("one digit", x.count(6), 1);
+            Due.tape(x, "melt 1 if owes");
+            x.end(13);
+            Due.noNumber("a word cut that is none", () -> x.law());
+            Due.is("its begin", x.fault(), 10);
+            Due.tape(x, "day 1;day 2");
+            x.end(6);
+            Due.noNumber("a line cut", () -> x.province());
+            Due.is("the length that is left", x.fault(), 6);
+        });
+        edge("if it would have more than 400", () -> {
+            for (String last : new String[] {"name abcdef", "day 999", "field slope 9 room 1 snow 5"}) {
+                Due.is(last + ", of 400", province(" ".repeat(400 - last.length()) + last), -1);
+            }
+            for (String last : new String[] {"melt 1 if owes", "melt 40", "melt 1 if(owes)", "melt 1 if 1<2"}) {
+                Due.is(last + ", of 400", law(" ".repeat(400 - last.length()) + last), -1);
+            }
+            for (String last : new String[] {"name", "day 1;", "name abcdef on", "field slope"}) {
+                Due.is(last + ", of 400", province(" ".repeat(400 - last.length()) + last), 400);
+            }
+            for (String last : new String[] {"melt", "melt 1;", "melt 1 if", "melt 1 if(owes", "melt 1 if 1<"}) {
+                Due.is(last + ", of 400", law(" ".repeat(400 - last.length()) + last), 400);
+            }
+            wrong(" ".repeat(399) + "x", 399);
+            // As many parts as there is room for.
+            rightLaw("melt 1 if 0" + "+0".repeat(193) + "<1");
+            rightLaw("keep 5 if owes" + " or owes".repeat(48));
+            rightLaw("melt 1;".repeat(11) + "deep 1 if " + "owes or owes and ".repeat(17) + " whole");
+        });
         edge("Uses the TAPE up: a text of THE PROVINCE: how many there are. IllegalArgumentException: it is wrong; "
                 + "UnsupportedOperationException: there are 12.", () -> {
             SnowNames x = new SnowNames();
@@ -355,6 +393,10 @@ public final class EdgesOfTextsTest {
             wrong("fal 1", 0);
             wrong("fallwind 1", 0);
             wrong(SNOWY + "name aon 0", 33);
+            wrong("name ab{", 7);
+            wrong("name abcdef|", 11);
+            wrong("name ab\u007f", 7);
+            wrong("name ab\u00ff", 7);
             rightLaw("melt1if whole and(owes)or not(written)");
             wrongLaw("melt 1 ifwhole", 7);
             wrongLaw("melt 1 if notwhole", 10);
@@ -518,6 +560,20 @@ public final class EdgesOfTextsTest {
         edge("a 7th one deep", () -> {
             wrongLaw("melt 1 if ((((((not owes", 16);
             wrongLaw("melt 1 if ((((((owes))) and ((((owes", 31);
+        });
+        edge("written: it is ON some FIELD; whole: it is WHOLE; owes: it owes something", () -> {
+            SnowNames x = Due.of(SNOWY + SNOWY + "hares 100;fall 100;name a on 0;name b;name c;debt 1 0 1");
+            x.days(1);
+            Due.law(x, "deep 1 if written;deep 2 if whole");
+            Due.is("altered: written, not whole", x.deep(0, 0), 5);
+            Due.is("of another field, too", x.deep(0, 1), 5);
+            Due.is("neither", x.deep(1, 0), 4);
+            x.write(0, 0);
+            Due.is("both", x.deep(0, 1), 7);
+            Due.law(x, "deep 1 if owes;deep 2 if debts>0;deep 2 if debts>1");
+            Due.is("it is owed something", x.deep(0, 0), 4);
+            Due.is("it owes something", x.deep(1, 0), 7);
+            Due.is("neither", x.deep(2, 0), 4);
         });
         edge("ATOM: not ATOM", () -> {
             SnowNames x = Due.of("field slope 0 room 1;name a");
