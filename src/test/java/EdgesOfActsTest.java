@@ -66,6 +66,13 @@ public final class EdgesOfActsTest {
             SnowNames x = after(3, text);
             Due.is("1 deep", x.letter(0, 1, 2), 1);
             Due.is("on its field", x.person(0, 1), 0);
+            Due.is("not gone", x.person(0, 2), 2);
+            Due.is("whole", x.person(0, 3), 1);
+            Due.is("it is read", x.letter(0, 0, 3) + " " + x.letter(0, 1, 3), "0 1");
+            Due.is("it is itself", x.person(0, 4), 0);
+            Due.is("it is struck by turns", x.first(), 2);
+            Due.is("it may be trodden", x.tread(0, 1), 2);
+            Due.is("all of it", x.letter(0, 0, 2) + " " + x.letter(0, 1, 2), "2 2");
             SnowNames y = after(4, text);
             Due.is("gone", y.person(0, 1), -1);
             Due.is("went", y.log(0, 2), 2);

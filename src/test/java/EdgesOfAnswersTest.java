@@ -169,6 +169,13 @@ public final class EdgesOfAnswersTest {
             Due.is("4 on the slope", y.person(0, 6), 1);
             y.strike(0);
             Due.is("8 on the slope", y.person(0, 6), 0);
+            SnowNames z = Due.of("field slope 2 room 9 snow 99;field slope 2 room 9 snow 99;name a;name b;name c");
+            Due.law(z, "deep 2 if field>person;deep 1 if person>1 and field<1");
+            Due.is("6 of 0 on 1", z.person(0, 6), 1);
+            Due.is("4 of 1 on both", z.person(1, 6), 0);
+            Due.law(z, "deep 2 if person<1 and field>0;deep 1 if person>0 and field<1");
+            Due.is("6 of 0 on 1", z.person(0, 6), 1);
+            Due.is("5 of 1 on 0", z.person(1, 6), 0);
         });
         edge("(one with which it would never not be WHOLE being the longest; of several the least); none", () -> {
             SnowNames x = Due.of("field slope 0 room 9 snow 60;field slope 0 room 9 snow 61;field slope 0 room 9 snow 99;name a");
@@ -497,6 +504,17 @@ public final class EdgesOfAnswersTest {
             Due.is("six of whom none fit", Due.of(SIX + "debt 0 1 1;debt 0 2 2;debt 0 3 4;debt 0 4 8;debt 0 5 16").settle(), 5);
             Due.is("three twos", Due.of(SIX + "debt 0 1 1;debt 2 3 2;debt 4 5 3").settle(), 3);
             Due.is("two threes", Due.of(SIX + "debt 0 1 1;debt 0 2 2;debt 3 4 5;debt 3 5 9").settle(), 4);
+            SnowNames x = Due.of(SIX + "day 1");
+            Due.is("none", x.settle(), 0);
+            x.lend(0, 1, 5);
+            Due.is("one", x.settle(), 1);
+            x.lend(1, 2, 3);
+            Due.is("two", x.settle(), 2);
+            x.lend(3, 4, 9);
+            Due.is("three", x.settle(), 3);
+            x.undo();
+            x.undo();
+            Due.is("one again", x.settle(), 1);
             // 0 owes 3, 1 owes 5; 2, 3, 4 are owed 1, 2, 5, though the debts run across.
             Due.is("across", Due.of(SIX + "debt 0 4 3;debt 1 2 1;debt 1 3 2;debt 1 4 2").settle(), 3);
         });
@@ -621,6 +639,9 @@ public final class EdgesOfAnswersTest {
             Due.law(x, "melt 5");
             Due.is("he has less than 0 by writing", x.rests(0, 0), 4);
             Due.is("nothing rests", x.rests(0, 1), 0);
+            SnowNames y = Due.of("field slope 0 room 9;field slope 0 room 9;name a;name b", "melt 5;deep 2 if field>person");
+            Due.is("deep 6 of 0 on 1: by writing he has 1", y.rests(0, 1), 1);
+            Due.is("deep 4 of 1 on 0: by writing he has -1", y.rests(1, 0), 4);
         });
     }
 

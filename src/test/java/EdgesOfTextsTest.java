@@ -423,6 +423,13 @@ public final class EdgesOfTextsTest {
             wrong("day ;", 4);
             wrong("day -1", 4);
             wrong("field  room 1", 7);
+            wrong("field 5 room 1", 6);
+            wrong("field slope 1 5", 14);
+            wrong("field slope 1 room 1 5", 21);
+            wrong("name ;day 1", 5);
+            wrong(SNOWY + "name a on ;day 1", 38);
+            wrong(TWO + "debt 0 ;", 21);
+            wrong(TWO + "debt 0 1 ;", 23);
             wrong("field slope 1 snow 1", 14);
             wrong("field slope 1 room 1 on 1", 21);
             wrong(SNOWY + "name a on x", 38);

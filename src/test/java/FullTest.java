@@ -105,6 +105,13 @@ public final class FullTest {
         for (int i = 0; i < 6; i++) {
             Due.is("all on 0: " + i, y.till(49, i), 0);
         }
+        for (int p = 0; p < 6; p++) {
+            for (int f = 0; f < 6; f++) {
+                Due.law(x, "melt 4;keep 4 if person+1>" + p + " and person<" + (p + 1) + " and field+1>" + f + " and field<" + (f + 1));
+                Due.is("one lasts on one field alone", x.till(1, -1), 1);
+                Due.is("who, and where", x.till(1, p), f);
+            }
+        }
     }
 
     private static void names() {
