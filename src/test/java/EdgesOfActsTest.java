@@ -367,6 +367,23 @@ public final class EdgesOfActsTest {
                 }
             }
         });
+        edge("each with a DEPTH 0 to 9; a MARK of DEPTH 0 is GONE", () -> {
+            SnowNames x = Due.of("fall 100;" + FLAT + "name ab on 0", "deep 40");
+            x.write(0, 0);
+            Due.is("9 deep", x.letter(0, 1, 2), 9);
+            x.days(8);
+            Due.is("1 deep", x.letter(0, 1, 2), 1);
+            Due.is("there", x.person(0, 2), 2);
+            x.days(1);
+            Due.is("gone", x.person(0, 2), 0);
+            Due.is("no depth on none", x.letter(0, 1, 2), -1);
+        });
+        edge("Trodden deeper: the greatest DEPTH of its MARKS then.", () -> {
+            SnowNames x = after(3, "fall 100;" + FLAT + "name ab on 0");
+            Due.is("1 and 8", x.tread(0, 8), 9);
+            SnowNames y = after(3, "fall 100;" + FLAT + "name ab on 0");
+            Due.is("1 and 7", y.tread(0, 7), 8);
+        });
         edge("IllegalArgumentException: n is none (1 to 9); IllegalStateException: it is ON none.", () -> {
             SnowNames x = Due.of(FLAT + "name a on 0;name b");
             Due.noNumber("0", () -> x.tread(0, 0));
@@ -538,6 +555,13 @@ public final class EdgesOfActsTest {
             }
             Due.is("the first one is remembered no more", x.undo(), false);
             Due.is("as behind it", x.field(0, 0), 1);
+        });
+        edge("UNDONE: whether there was one.", () -> {
+            SnowNames x = Due.of(ONE);
+            Due.is("none", x.undo(), false);
+            x.snow(0, 1);
+            Due.is("one", x.undo(), true);
+            Due.is("none any more", x.undo(), false);
         });
         edge("all is as ahead of it (but for the TAPE, fault(), THE IMAGE", () -> {
             SnowNames x = Due.of(FLAT + "name ab");

@@ -82,6 +82,28 @@ public final class EdgesOfAnswersTest {
             Due.is("one altered is not gone", y.person(0, 2), 1);
             Due.is("but not whole", y.person(0, 3), 0);
         });
+        edge("1 the FIELD it is ON (NONE)", () -> {
+            SnowNames x = Due.of(FLAT + FLAT + "name a;name b on 1;name c on 0");
+            Due.is("on", x.person(0, 1) + " " + x.person(1, 1) + " " + x.person(2, 1), "-1 1 0");
+            x.strike(1);
+            Due.is("struck out", x.person(1, 1), -1);
+        });
+        edge("WHOLE: no MARK is GONE, and all are as GIVEN.", () -> {
+            SnowNames x = altered(FLAT + "name ab on 0;name cd");
+            Due.is("the last one altered", x.person(0, 3), 0);
+            x.write(0, 0);
+            Due.is("as given", x.person(0, 3), 1);
+            Due.is("on none", x.person(1, 3), 0);
+            x.strike(0);
+            Due.is("struck out", x.person(0, 3), 0);
+        });
+        edge("USED of a FIELD: how many LETTERS those ON it have GIVEN, together.", () -> {
+            SnowNames x = altered(FLAT + "field slope 0 room 20 snow 1;name abcdef on 0;name ab on 1;name abcdef on 0;name abc");
+            Due.is("altered ones, too", x.field(0, 3), 12);
+            Due.is("of the other one", x.field(1, 3), 2);
+            x.strike(0);
+            Due.is("struck out", x.field(0, 3), 6);
+        });
         edge("in hundredths, rounded down (0 without)", () -> {
             SnowNames x = Due.of("name a;name b;name c;debt 0 1 1;debt 1 2 2");
             Due.is("a third", x.person(0, 8), 33);
@@ -343,6 +365,24 @@ public final class EdgesOfAnswersTest {
     }
 
     private static void rows() {
+        edge("LIKELY (the TAPE likewise); NONE. IllegalArgumentException: the TAPE is not that.", () -> {
+            SnowNames x = Due.of("name a");
+            Due.tape(x, "\0\1\0\1");
+            Due.is("none", x.likely(), -1);
+            Due.is("of an empty tape", x.likely(), 0);
+            Due.tape(x, "\0\0\1");
+            Due.noNumber("three bytes", () -> x.likely());
+            Due.is("it is empty then", x.likely(), 0);
+        });
+        edge("LOOK (the TAPE likewise); NONE. IllegalArgumentException: the TAPE is not that.", () -> {
+            SnowNames x = Due.of("name a;name b");
+            Due.tape(x, "\0\1\0\1");
+            Due.is("one fits", x.look(), -1);
+            Due.is("of an empty tape", x.look(), 0);
+            Due.tape(x, "\0\0\1");
+            Due.noNumber("three bytes", () -> x.look());
+            Due.is("it is empty then", x.look(), 0);
+        });
         edge("(of each two bytes: the place 0 to 5, the LETTER 0 to 7; at most 40 bytes), as bits. IllegalArgumentException: the "
                 + "TAPE is not that (none may be told)", () -> {
             SnowNames x = Due.of("name a;name b;name abcdeh");
